@@ -1,0 +1,53 @@
+import java.lang.reflect.Constructor;
+import java.lang.reflect.Field;
+import java.lang.reflect.Method;
+import java.lang.reflect.Modifier;
+import java.util.Arrays;
+import java.util.TreeSet;
+
+/** The public face: exactly the document's, and nothing else to be seen from outside the class. */
+public final class FaceTest {
+    private static final String[] FACE = {
+        "public LeaseDesk()",
+        "public int LeaseDesk.open() throws java.lang.IllegalStateException",
+        "public int LeaseDesk.close(int) throws java.util.NoSuchElementException",
+        "public void LeaseDesk.keep(int) throws java.util.NoSuchElementException",
+        "public boolean LeaseDesk.rate(int,int)",
+        "public int LeaseDesk.tick(int)",
+        "public int LeaseDesk.acquire(int,int,int)"
+            + " throws java.util.NoSuchElementException,java.lang.IllegalArgumentException",
+        "public void LeaseDesk.release(int,int) throws java.util.NoSuchElementException,"
+            + "java.lang.IllegalArgumentException,java.lang.IllegalStateException",
+        "public boolean LeaseDesk.cancel(int,int)",
+        "public int LeaseDesk.holder(int)",
+        "public int LeaseDesk.token(int)",
+        "public int LeaseDesk.until(int)",
+        "public int LeaseDesk.waiter(int,int)",
+        "public int LeaseDesk.time()",
+        "public int LeaseDesk.clock(int)",
+        "public boolean LeaseDesk.believes(int,int)",
+        "public boolean LeaseDesk.write(int,int,int)",
+        "public int LeaseDesk.stored(int)",
+        "public int LeaseDesk.seen(int)",
+    };
+
+    public static void main(String[] args) {
+        Check.same("the class's modifiers", Modifier.toString(LeaseDesk.class.getModifiers()), "public final");
+        TreeSet<String> found = new TreeSet<>();
+        for (Constructor<?> constructor : LeaseDesk.class.getDeclaredConstructors()) {
+            found.add(constructor.toString());
+        }
+        for (Method method : LeaseDesk.class.getDeclaredMethods()) {
+            if (!Modifier.isPrivate(method.getModifiers())) {
+                found.add(method.toString());
+            }
+        }
+        for (Field field : LeaseDesk.class.getDeclaredFields()) {
+            if (!Modifier.isPrivate(field.getModifiers())) {
+                found.add(field.toString());
+            }
+        }
+        Check.same("the face", found.toString(), new TreeSet<>(Arrays.asList(FACE)).toString());
+        Check.end();
+    }
+}

@@ -43,19 +43,11 @@ public final class LeaseDesk {
     }
 
     public int close(int slot) throws NoSuchElementException {
-        Session session = openSession(slot);
-        if (session == null) {
-            throw new NoSuchElementException("the session is not open");
-        }
-        return endSession(session, slot);
+        return endSession(requireSession(slot), slot);
     }
 
     public void keep(int slot) throws NoSuchElementException {
-        Session session = openSession(slot);
-        if (session == null) {
-            throw new NoSuchElementException("the session is not open");
-        }
-        session.sign = now;
+        requireSession(slot).sign = now;
     }
 
     public boolean rate(int slot, int r) {
@@ -79,14 +71,8 @@ public final class LeaseDesk {
     }
 
     public int acquire(int slot, int lock, int term) throws NoSuchElementException, IllegalArgumentException {
-        Session session = openSession(slot);
-        if (session == null) {
-            throw new NoSuchElementException("the session is not open");
-        }
-        Lock wanted = knownLock(lock);
-        if (wanted == null) {
-            throw new IllegalArgumentException("there is no such lock");
-        }
+        Session session = requireSession(slot);
+        Lock wanted = requireLock(lock);
         if (term < 1 || term > LONGEST_TERM) {
             throw new IllegalArgumentException("the term is not 1 to 100");
         }
@@ -95,7 +81,7 @@ public final class LeaseDesk {
             wanted.renew(term, now, session.clock);
             return wanted.token;
         }
-        if (wanted.holder == NONE) {
+        if (wanted.isFree()) {
             wanted.lend(slot, term, now, session.clock);
             return wanted.token;
         }
@@ -105,13 +91,8 @@ public final class LeaseDesk {
 
     public void release(int slot, int lock)
             throws NoSuchElementException, IllegalArgumentException, IllegalStateException {
-        if (openSession(slot) == null) {
-            throw new NoSuchElementException("the session is not open");
-        }
-        Lock held = knownLock(lock);
-        if (held == null) {
-            throw new IllegalArgumentException("there is no such lock");
-        }
+        requireSession(slot);
+        Lock held = requireLock(lock);
         if (held.holder != slot) {
             throw new IllegalStateException("the session does not hold the lock");
         }
@@ -135,7 +116,7 @@ public final class LeaseDesk {
 
     public int until(int lock) {
         Lock asked = knownLock(lock);
-        return asked == null || asked.holder == NONE ? NONE : asked.ends;
+        return asked == null || asked.isFree() ? NONE : asked.ends;
     }
 
     public int waiter(int lock, int k) {
@@ -190,8 +171,25 @@ public final class LeaseDesk {
         return sessions[slot];
     }
 
+    /** The lock, or null if there is no such lock. */
     private Lock knownLock(int lock) {
         return lock < 0 || lock >= LOCKS ? null : locks[lock];
+    }
+
+    private Session requireSession(int slot) {
+        Session session = openSession(slot);
+        if (session == null) {
+            throw new NoSuchElementException("the session is not open");
+        }
+        return session;
+    }
+
+    private Lock requireLock(int lock) {
+        Lock known = knownLock(lock);
+        if (known == null) {
+            throw new IllegalArgumentException("there is no such lock");
+        }
+        return known;
     }
 
     private void moveClocks(int d) {
@@ -216,7 +214,7 @@ public final class LeaseDesk {
     private int passOnLeasesDue() {
         int leasesEnded = 0;
         for (Lock lock : locks) {
-            if (lock.holder != NONE && lock.ends <= now) {
+            if (!lock.isFree() && lock.ends <= now) {
                 passOn(lock);
                 leasesEnded++;
             }
@@ -274,6 +272,10 @@ public final class LeaseDesk {
         int start;
         int seenToken;
         int value;
+
+        boolean isFree() {
+            return holder == NONE;
+        }
 
         void lend(int slot, int newTerm, int now, int clock) {
             holder = slot;

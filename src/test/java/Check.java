@@ -1,15 +1,28 @@
 import java.util.NoSuchElementException;
 
-/** What the tests share: they compare answers, print each wrong one, and end with exit code 1 if there was one. */
+/**
+ * What the tests share: they compare answers, print each wrong one behind the sentence of the document that it breaks,
+ * and end with exit code 1 if there was one.
+ */
 final class Check {
     /** A call that may throw. */
-    interface Call {
+    interface Made {
         void make();
     }
 
+    static final String NO_ELEMENT = "throws " + NoSuchElementException.class.getName();
+    static final String BAD_ARGUMENT = "throws " + IllegalArgumentException.class.getName();
+    static final String BAD_STATE = "throws " + IllegalStateException.class.getName();
+
+    private static String sentence = "";
     private static int wrong = 0;
 
     private Check() {
+    }
+
+    /** The document's words that the checks from here on are about. */
+    static void sentence(String words) {
+        sentence = words;
     }
 
     static void same(String call, long got, long want) {
@@ -30,26 +43,44 @@ final class Check {
         }
     }
 
-    static void noElement(String call, Call made) {
-        same(call + " throws", thrownBy(made), NoSuchElementException.class.getName());
+    static void noElement(String call, Made made) {
+        same(call, thrownBy(made), NO_ELEMENT);
     }
 
-    static void badArgument(String call, Call made) {
-        same(call + " throws", thrownBy(made), IllegalArgumentException.class.getName());
+    static void badArgument(String call, Made made) {
+        same(call, thrownBy(made), BAD_ARGUMENT);
     }
 
-    static void badState(String call, Call made) {
-        same(call + " throws", thrownBy(made), IllegalStateException.class.getName());
+    static void badState(String call, Made made) {
+        same(call, thrownBy(made), BAD_STATE);
     }
 
-    /** The exact class's name, because a subclass would not be what the document names. */
-    static String thrownBy(Call made) {
+    /** Names the exact class, because a subclass would not be what the document names. */
+    static String thrownBy(Made made) {
         try {
             made.make();
         } catch (Throwable thrown) {
-            return thrown.getClass().getName();
+            return "throws " + thrown.getClass().getName();
         }
-        return "nothing";
+        return "throws nothing";
+    }
+
+    /** The lock's row is these sessions, in this order, and none behind them. */
+    static void row(String when, LeaseDesk desk, int lock, int... due) {
+        for (int k = 0; k < 6; k++) {
+            same("waiter(" + lock + ", " + k + ") " + when, desk.waiter(lock, k), k < due.length ? due[k] : -1);
+        }
+    }
+
+    /** A lock's lease, by the three questions about it. */
+    static void lease(String when, LeaseDesk desk, int lock, int holder, int token, int until) {
+        same("holder(" + lock + ") " + when, desk.holder(lock), holder);
+        same("token(" + lock + ") " + when, desk.token(lock), token);
+        same("until(" + lock + ") " + when, desk.until(lock), until);
+    }
+
+    static void free(String when, LeaseDesk desk, int lock, int token) {
+        lease(when, desk, lock, -1, token, -1);
     }
 
     /** A desk with this many sessions open, in slots 0, 1, .. */
@@ -61,41 +92,17 @@ final class Check {
         return desk;
     }
 
-    /** The time goes on by d, and none of the open sessions falls silent in it. */
-    static void tickKeeping(LeaseDesk desk, int d) {
-        for (int slot = 0; slot < 6; slot++) {
-            if (desk.clock(slot) != -1) {
-                desk.keep(slot);
-            }
+    /** The time goes on by d, and none of these sessions falls silent in it. */
+    static void tickKeeping(LeaseDesk desk, int d, int... slots) {
+        for (int slot : slots) {
+            desk.keep(slot);
         }
         desk.tick(d);
     }
 
-    /** All that can be asked of a desk without changing it. */
-    static String view(LeaseDesk desk) {
-        StringBuilder text = new StringBuilder("time ").append(desk.time());
-        for (int slot = -1; slot <= 6; slot++) {
-            text.append(" | clock ").append(slot).append(' ').append(desk.clock(slot));
-        }
-        for (int lock = -1; lock <= 4; lock++) {
-            text.append(" | lock ").append(lock).append(" holder ").append(desk.holder(lock));
-            text.append(" token ").append(desk.token(lock)).append(" until ").append(desk.until(lock));
-            text.append(" row");
-            for (int k = -1; k <= 6; k++) {
-                text.append(' ').append(desk.waiter(lock, k));
-            }
-            text.append(" believes");
-            for (int slot = -1; slot <= 6; slot++) {
-                text.append(' ').append(desk.believes(slot, lock));
-            }
-            text.append(" stored ").append(desk.stored(lock)).append(" seen ").append(desk.seen(lock));
-        }
-        return text.toString();
-    }
-
     static void fail(String what) {
         wrong++;
-        System.out.println(what);
+        System.out.println(sentence.isEmpty() ? what : "\"" + sentence + "\": " + what);
     }
 
     static void end() {

@@ -4,10 +4,6 @@ import java.util.TreeMap;
 
 /** The document told a second time, as plainly as the Java library allows, to be compared with LeaseDesk. */
 final class Model {
-    private static final String NO_ELEMENT = "java.util.NoSuchElementException";
-    private static final String BAD_ARGUMENT = "java.lang.IllegalArgumentException";
-    private static final String BAD_STATE = "java.lang.IllegalStateException";
-
     private record Request(int slot, int term) {
     }
 
@@ -34,30 +30,30 @@ final class Model {
         }
     }
 
-    String make(int[] call) {
-        int a = call[1];
-        int b = call[2];
-        int c = call[3];
-        switch (call[0]) {
-            case Desk.OPEN:
-                return open();
-            case Desk.CLOSE:
-                return open.containsKey(a) ? String.valueOf(end(a)) : NO_ELEMENT;
-            case Desk.KEEP:
-                return keep(a);
-            case Desk.RATE:
-                return String.valueOf(rate(a, b));
-            case Desk.TICK:
-                return String.valueOf(tick(a));
-            case Desk.ACQUIRE:
-                return acquire(a, b, c);
-            case Desk.RELEASE:
-                return release(a, b);
-            case Desk.CANCEL:
-                return String.valueOf(isLock(b) && rows.get(b).removeIf(request -> request.slot() == a));
-            default:
-                return String.valueOf(write(a, b, c));
-        }
+    String make(Call call) {
+        int a = call.a;
+        int b = call.b;
+        int c = call.c;
+        return switch (call.kind) {
+            case OPEN -> open();
+            case CLOSE -> open.containsKey(a) ? String.valueOf(end(a)) : Check.NO_ELEMENT;
+            case KEEP -> keep(a);
+            case RATE -> String.valueOf(rate(a, b));
+            case TICK -> String.valueOf(tick(a));
+            case ACQUIRE -> acquire(a, b, c);
+            case RELEASE -> release(a, b);
+            case CANCEL -> String.valueOf(isLock(b) && rows.get(b).removeIf(request -> request.slot() == a));
+            case WRITE -> String.valueOf(write(a, b, c));
+            case HOLDER -> String.valueOf(lent.containsKey(a) ? lent.get(a).slot() : -1);
+            case TOKEN -> String.valueOf(isLock(a) ? tokens[a] : -1);
+            case UNTIL -> String.valueOf(lent.containsKey(a) ? lent.get(a).ends() : -1);
+            case WAITER -> String.valueOf(waits(a, b) ? rows.get(a).get(b).slot() : -1);
+            case TIME -> String.valueOf(time);
+            case CLOCK -> String.valueOf(open.containsKey(a) ? open.get(a).clock : -1);
+            case BELIEVES -> String.valueOf(believes(a, b));
+            case STORED -> String.valueOf(isLock(a) ? values[a] : 0);
+            case SEEN -> String.valueOf(isLock(a) ? seen[a] : -1);
+        };
     }
 
     private static boolean isLock(int lock) {
@@ -77,12 +73,12 @@ final class Model {
                 return String.valueOf(slot);
             }
         }
-        return BAD_STATE;
+        return Check.BAD_STATE;
     }
 
     private String keep(int slot) {
         if (!open.containsKey(slot)) {
-            return NO_ELEMENT;
+            return Check.NO_ELEMENT;
         }
         open.get(slot).sign = time;
         return "void";
@@ -121,10 +117,10 @@ final class Model {
 
     private String acquire(int slot, int lock, int term) {
         if (!open.containsKey(slot)) {
-            return NO_ELEMENT;
+            return Check.NO_ELEMENT;
         }
         if (!isLock(lock) || term < 1 || term > 100) {
-            return BAD_ARGUMENT;
+            return Check.BAD_ARGUMENT;
         }
         Client client = open.get(slot);
         client.sign = time;
@@ -151,13 +147,13 @@ final class Model {
 
     private String release(int slot, int lock) {
         if (!open.containsKey(slot)) {
-            return NO_ELEMENT;
+            return Check.NO_ELEMENT;
         }
         if (!isLock(lock)) {
-            return BAD_ARGUMENT;
+            return Check.BAD_ARGUMENT;
         }
         if (!holds(slot, lock)) {
-            return BAD_STATE;
+            return Check.BAD_STATE;
         }
         passOn(lock);
         return "void";
@@ -200,31 +196,8 @@ final class Model {
         return held;
     }
 
-    /** In the form of Check.view. */
-    String view() {
-        StringBuilder text = new StringBuilder("time ").append(time);
-        for (int slot = -1; slot <= 6; slot++) {
-            int clock = open.containsKey(slot) ? open.get(slot).clock : -1;
-            text.append(" | clock ").append(slot).append(' ').append(clock);
-        }
-        for (int lock = -1; lock <= 4; lock++) {
-            boolean isLent = lent.containsKey(lock);
-            text.append(" | lock ").append(lock).append(" holder ").append(isLent ? lent.get(lock).slot() : -1);
-            text.append(" token ").append(isLock(lock) ? tokens[lock] : -1);
-            text.append(" until ").append(isLent ? lent.get(lock).ends() : -1);
-            text.append(" row");
-            for (int k = -1; k <= 6; k++) {
-                boolean waits = isLock(lock) && k >= 0 && k < rows.get(lock).size();
-                text.append(' ').append(waits ? rows.get(lock).get(k).slot() : -1);
-            }
-            text.append(" believes");
-            for (int slot = -1; slot <= 6; slot++) {
-                text.append(' ').append(believes(slot, lock));
-            }
-            text.append(" stored ").append(isLock(lock) ? values[lock] : 0);
-            text.append(" seen ").append(isLock(lock) ? seen[lock] : -1);
-        }
-        return text.toString();
+    private boolean waits(int lock, int k) {
+        return isLock(lock) && k >= 0 && k < rows.get(lock).size();
     }
 
     private boolean believes(int slot, int lock) {

@@ -1,7 +1,9 @@
-/** All promises: long runs of calls, each answer and all that can be asked after it as the model has it. */
+import java.util.List;
+
+/** All promises: long runs of calls, each answer, and in the end every question, as the model has it. */
 public final class ModelTest {
-    private static final int RUNS = 1500;
-    private static final int CALLS_OF_A_RUN = 300;
+    private static final int RUNS = 6000;
+    private static final int CALLS_OF_AN_OBJECT = 512;
 
     public static void main(String[] args) {
         for (int seed = 0; seed < RUNS; seed++) {
@@ -15,13 +17,13 @@ public final class ModelTest {
     private static boolean runAgrees(int seed) {
         LeaseDesk desk = new LeaseDesk();
         Model model = new Model();
-        Calls calls = new Calls(seed);
-        for (int i = 0; i < CALLS_OF_A_RUN; i++) {
-            int[] call = calls.next();
-            String got = Desk.make(desk, call) + " then " + Check.view(desk);
-            String want = model.make(call) + " then " + model.view();
+        List<Call> calls = new Calls(seed).next(CALLS_OF_AN_OBJECT - Questions.ALL.size());
+        calls.addAll(Questions.ALL);
+        for (int i = 0; i < calls.size(); i++) {
+            String got = calls.get(i).on(desk);
+            String want = model.make(calls.get(i));
             if (!got.equals(want)) {
-                Check.same("run " + seed + ", call " + i + ": " + Desk.told(call), got, want);
+                Check.same("run " + seed + ", call " + i + ": " + calls.get(i), got, want);
                 return false;
             }
         }

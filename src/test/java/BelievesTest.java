@@ -12,6 +12,7 @@ public final class BelievesTest {
         theLongestTerm();
         beyondTheStart();
         beyondTheStartOfAGrantFromTheRow();
+        theTermAskedForLast();
         neverInALeaseThatHasEnded();
         notOneThatWaits();
         notAStranger();
@@ -140,6 +141,23 @@ public final class BelievesTest {
         Check.same("believes(1, 0), 170 of 180", desk.believes(1, 0), true);
         desk.tick(1);
         Check.same("believes(1, 0), 180 of 180", desk.believes(1, 0), false);
+    }
+
+    private static void theTermAskedForLast() {
+        Check.sentence("the TERM for which it was asked (by a request that was given another term as it waited)");
+        int[] terms = {5, 40};
+        for (int term : terms) {
+            LeaseDesk desk = Check.deskWith(2);
+            desk.acquire(0, 0, 10);
+            desk.acquire(1, 0, 20);
+            desk.acquire(1, 0, term);
+            desk.tick(10);
+            int lastTrue = (9 * term - 1) / 10;
+            desk.tick(lastTrue);
+            Check.same("believes(1, 0) at the last moment of term " + term, desk.believes(1, 0), true);
+            Check.tickKeeping(desk, 1, 1);
+            Check.same("believes(1, 0) after it", desk.believes(1, 0), false);
+        }
     }
 
     private static void neverInALeaseThatHasEnded() {

@@ -3,6 +3,7 @@ public final class ClockTest {
     public static void main(String[] args) {
         zeroWhenOpened();
         rateTimesD();
+        aTenthTooFastOrTooSlow();
         eachSessionHasItsOwn();
         byTickAlone();
         asFarAsTheCallsAllow();
@@ -36,6 +37,19 @@ public final class ClockTest {
                 desk.tick(d);
                 Check.same("clock(0) after tick(" + d + ") at rate " + r, desk.clock(0), r * d);
             }
+        }
+    }
+
+    private static void aTenthTooFastOrTooSlow() {
+        Check.sentence("Clients' clocks may run a tenth too fast or too slow");
+        LeaseDesk desk = Check.deskWith(3);
+        desk.rate(1, 11);
+        desk.rate(2, 9);
+        for (int time = 10; time <= 500; time += 10) {
+            Check.tickKeeping(desk, 10, 0, 1, 2);
+            Check.same("clock(0), right", desk.clock(0), 10 * time);
+            Check.same("clock(1), a tenth more", desk.clock(1), 10 * time + time);
+            Check.same("clock(2), a tenth less", desk.clock(2), 10 * time - time);
         }
     }
 

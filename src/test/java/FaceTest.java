@@ -32,6 +32,13 @@ public final class FaceTest {
     };
 
     public static void main(String[] args) {
+        theFace();
+        privateNames();
+        classesInside();
+        Check.end();
+    }
+
+    private static void theFace() {
         Check.same("the class's modifiers", Modifier.toString(LeaseDesk.class.getModifiers()), "public final");
         TreeSet<String> found = new TreeSet<>();
         for (Constructor<?> constructor : LeaseDesk.class.getDeclaredConstructors()) {
@@ -48,6 +55,27 @@ public final class FaceTest {
             }
         }
         Check.same("the face", found.toString(), new TreeSet<>(Arrays.asList(FACE)).toString());
-        Check.end();
+    }
+
+    private static void privateNames() {
+        Check.sentence("No private method bears the name of a public one. (LANGUAGE.md, rule 1)");
+        TreeSet<String> open = new TreeSet<>();
+        for (Method method : LeaseDesk.class.getMethods()) {
+            open.add(method.getName());
+        }
+        for (Method method : LeaseDesk.class.getDeclaredMethods()) {
+            boolean isPrivate = Modifier.isPrivate(method.getModifiers());
+            Check.same("the name of " + method, isPrivate && open.contains(method.getName()), false);
+        }
+    }
+
+    private static void classesInside() {
+        Check.sentence("the classes inside it, which are private or package-visible and static (LANGUAGE.md, rule 1)");
+        for (Class<?> inside : LeaseDesk.class.getDeclaredClasses()) {
+            int modifiers = inside.getModifiers();
+            boolean isSeen = Modifier.isPublic(modifiers) || Modifier.isProtected(modifiers);
+            Check.same(inside + " is kept inside", isSeen, false);
+            Check.same(inside + " is static", Modifier.isStatic(modifiers), true);
+        }
     }
 }

@@ -10,6 +10,7 @@ public final class TickTest {
         eachSignForItself();
         endedFromTheLeastSlot();
         endedFromTheLeastSlotTheOtherWay();
+        passedOnPastSilentSessions();
         anEndedSessionWaitsNoMore();
         anEndedSessionsLocksArePassedOn();
         endsAtThisTime();
@@ -144,6 +145,24 @@ public final class TickTest {
         Check.same("tick(51): the row is gone before 5 ends", desk.tick(51), 1);
         Check.free("after it", desk, 0, 1);
         Check.row("after it", desk, 0);
+    }
+
+    private static void passedOnPastSilentSessions() {
+        Check.sentence("are ended, from the least slot (a lock goes on past silent sessions to one that lives)");
+        LeaseDesk desk = Check.deskWith(5);
+        int[] order = {1, 3, 0, 4, 2};
+        for (int slot : order) {
+            desk.acquire(slot, 2, 60 + slot);
+        }
+        desk.tick(1);
+        desk.keep(2);
+        desk.keep(4);
+        Check.same("tick(50): 0 leaves the row, 1 ends, 3 has it and ends, 4 lives", desk.tick(50), 2);
+        Check.lease("at 51", desk, 2, 4, 3, 51 + 64);
+        Check.row("at 51", desk, 2, 2);
+        Check.same("tick(1): 2 leaves the row, 4 ends", desk.tick(1), 1);
+        Check.free("at 52, with all ended", desk, 2, 3);
+        Check.row("at 52, with all ended", desk, 2);
     }
 
     private static void anEndedSessionWaitsNoMore() {
